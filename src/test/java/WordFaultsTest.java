@@ -30,6 +30,9 @@ public final class WordFaultsTest {
         CHECK.fine("partition late { memory 256; event illegal; event raised; event skip; event stop;"
             + " board again; board warm; board cold; board idle; buffer handle 1; } frame { late 1; }");
         CHECK.fine("partition frames { memory 256; event inn; event ou; event partitio; } frame { frames 1; }");
+        // Names differ by any letter, by a digit in a letter's place and by their length alone.
+        CHECK.fine("partition a { memory 256; event a; event aa; event az; event a0; board z; board a9; board b; board ba; }"
+            + " frame { a 1; }");
         // Twelve letters tell names apart to the last one.
         CHECK.fine("partition a { memory 256; event zzzzzzzzzzzz; event zzzzzzzzzzz9; event z; event zz; } frame { a 1; }");
     }
