@@ -1,3 +1,5 @@
+import java.util.function.IntUnaryOperator;
+
 /** What the tests share: texts put into objects, answers compared, faults at a marked byte. */
 final class Check {
     /** A whole configuration with something of everything; the tests change it in places. */
@@ -14,12 +16,32 @@ final class Check {
         + "channel queuing 1 { input > output }\n"
         + "frame { a 10; b 6; a 4; }";
 
+    /** The smallest configuration; its one partition is p. */
+    static final String SMALL = "partition p{memory 256;}frame{p 1;}";
+
+    /** The words that are no names. */
+    static final String[] WORDS = ("partition memory process entry priority period deadline handler stopped semaphore"
+        + " event buffer board port in out errors channel sampling queuing input output frame").split(" ");
+
+    /** What load() stands for in a comparison when it throws IllegalArgumentException. */
+    static final int THROWN = -7;
+
+    private String sentence = "";
     private int wrong;
+
+    /** The sentence of the document that the following comparisons are about. */
+    void sentence(String words) {
+        sentence = words;
+    }
+
+    private void report(String what) {
+        wrong++;
+        System.out.println("\"" + sentence + "\"\n  " + what);
+    }
 
     void same(String call, long got, long want) {
         if (got != want) {
-            wrong++;
-            System.out.println(call + " answered " + got + ", due is " + want);
+            report(call + " answered " + got + ", due is " + want);
         }
     }
 
@@ -27,11 +49,29 @@ final class Check {
         same(call, got ? 1 : 0, want ? 1 : 0);
     }
 
-    /** A row of answers: call(from), call(from + 1), .. */
-    void row(String call, int from, int[] got, int... want) {
-        same(call + " answers", got.length, want.length);
-        for (int k = 0; k < Math.min(got.length, want.length); k++) {
-            same(call + " number " + (from + k), got[k], want[k]);
+    void same(String what, String got, String want) {
+        if (!got.equals(want)) {
+            report(what + "\n  was " + want + "\n  is  " + got);
+        }
+    }
+
+    /** A row of answers: those to 0, to 1, .. */
+    void row(String call, IntUnaryOperator answer, int... want) {
+        for (int k = 0; k < want.length; k++) {
+            same(call + " " + k, answer.applyAsInt(k), want[k]);
+        }
+    }
+
+    /** NONE is due below 0 and from a bound on, also where an int that is doubled or counted on wraps around. */
+    void noneBeyond(String call, int bound, IntUnaryOperator answer) {
+        int[] beyond = {
+            -1, -2, -bound, bound, bound + 1, 1 << 8, 1 << 16, 1 << 28, 1 << 29, 1 << 30, -(1 << 29), -(1 << 30),
+            Integer.MAX_VALUE - 1, Integer.MAX_VALUE, Integer.MIN_VALUE, Integer.MIN_VALUE + 1, Integer.MIN_VALUE + 4
+        };
+        for (int k : beyond) {
+            if (k < 0 || k >= bound) {
+                same(call + " " + k, answer.applyAsInt(k), ConfigTexts.NONE);
+            }
         }
     }
 
@@ -49,21 +89,26 @@ final class Check {
         return all;
     }
 
-    /** What load() answers, or -7 if it throws IllegalArgumentException. */
-    static int load(ConfigTexts x, String text) {
-        put(x, text);
+    static int load(ConfigTexts x) {
         try {
             return x.load();
         } catch (IllegalArgumentException fault) {
-            return -7;
+            return THROWN;
         }
+    }
+
+    static int load(ConfigTexts x, String text) {
+        put(x, text);
+        return load(x);
     }
 
     ConfigTexts loaded(String text) {
         ConfigTexts x = new ConfigTexts();
-        if (load(x, text) == -7) {
-            wrong++;
-            System.out.println(text + "\n  has fault " + x.fault(0) + " at " + x.fault(1) + ", due is none");
+        if (!put(x, text)) {
+            report(text + "\n  has no room in one object");
+        }
+        if (load(x) == THROWN) {
+            report(text + "\n  has fault " + x.fault(0) + " at " + x.fault(1) + ", due is none");
         }
         return x;
     }
@@ -75,12 +120,17 @@ final class Check {
     /** The text without its mark ^ has the fault where the mark stood. */
     void fault(int fault, String marked) {
         int place = marked.indexOf('^');
-        String text = marked.substring(0, place) + marked.substring(place + 1);
+        faultAt(fault, place, marked.substring(0, place) + marked.substring(place + 1));
+    }
+
+    void faultAt(int fault, int place, String text) {
         ConfigTexts x = new ConfigTexts();
-        int answer = load(x, text);
-        if (answer != -7 || x.fault(0) != fault || x.fault(1) != place) {
-            wrong++;
-            System.out.println(marked + "\n  answered " + answer + ", fault " + x.fault(0) + " at " + x.fault(1)
+        if (!put(x, text)) {
+            report(text + "\n  has no room in one object");
+        }
+        int answer = load(x);
+        if (answer != THROWN || x.fault(0) != fault || x.fault(1) != place) {
+            report(text + "\n  answered " + answer + ", fault " + x.fault(0) + " at " + x.fault(1)
                 + ", due is fault " + fault + " at " + place);
         }
     }
@@ -90,12 +140,45 @@ final class Check {
         fault(fault, "partition a { memory 256; " + marked);
     }
 
+    /** What stands inside a partition of 256 bytes, behind its memory, is fine. */
+    void fineInside(String things) {
+        fine("partition a { memory 256; " + things + " } frame { a 1; }");
+    }
+
     static String times(int n, String form) {
         StringBuilder all = new StringBuilder();
         for (int k = 0; k < n; k++) {
             all.append(form.replace("#", Integer.toString(k)));
         }
         return all.toString();
+    }
+
+    /** All that an object tells of a configuration of the size of FULL, in some 130 calls. */
+    static String told(ConfigTexts x) {
+        StringBuilder all = new StringBuilder();
+        add(all, 2, x::fault);
+        add(all, 6, x::size);
+        for (int k = 0; k < 3; k++) {
+            int n = k;
+            add(all, 8, what -> x.channel(n, what));
+            add(all, 2, what -> x.window(n, what));
+            add(all, 5, what -> x.process(0, n, what));
+            add(all, 3, what -> x.thing(0, 2, n, what));
+            add(all, 3, what -> x.thing(1, 2, n, what));
+        }
+        for (int k = 0; k < 2; k++) {
+            int n = k;
+            add(all, 12, what -> x.partition(n, what));
+            add(all, 2, what -> x.thing(0, 0, n, what));
+            add(all, 1, what -> x.thing(0, 1, n, what));
+        }
+        return all.toString();
+    }
+
+    private static void add(StringBuilder all, int n, IntUnaryOperator answer) {
+        for (int k = 0; k < n; k++) {
+            all.append(answer.applyAsInt(k)).append(k + 1 < n ? " " : "; ");
+        }
     }
 
     void end() {
