@@ -93,7 +93,8 @@ final class Check {
         try {
             return x.load();
         } catch (IllegalArgumentException fault) {
-            return THROWN;
+            // The one that the document names, not one of the classes below it.
+            return fault.getClass() == IllegalArgumentException.class ? THROWN : THROWN - 1;
         }
     }
 

@@ -12,6 +12,7 @@ public final class LoadTest {
         everyFaultThrows();
         configurationIsReplaced();
         configurationStandsUntilLoad();
+        upToTheLastCall();
         CHECK.end();
     }
 
@@ -118,5 +119,19 @@ public final class LoadTest {
         Check.put(x, Check.SMALL);
         CHECK.same("what is told behind put", Check.told(x), before);
         CHECK.same("load(): asking left the text alone", Check.load(x), 1);
+    }
+
+    private static void upToTheLastCall() {
+        CHECK.sentence("An object is used for at most 512 calls");
+        ConfigTexts x = CHECK.loaded(Check.SMALL);
+        int calls = 1 + (Check.SMALL.length() + 7) / 8;
+        for (; calls < 512 - 2 - Check.SMALL.length(); calls++) {
+            x.put(-1L, 9);
+        }
+        for (int k = 0; k < Check.SMALL.length(); k++) {
+            x.put(Check.SMALL.charAt(k), 1);
+        }
+        CHECK.same("load() as call 511", Check.load(x), 1);
+        CHECK.same("size(5) as call 512", x.size(5), 1);
     }
 }

@@ -1,3 +1,6 @@
+import java.util.ArrayList;
+import java.util.List;
+
 /** The Terms: faults 3 (a NAME anew that is there) and 6 (a name that is not there, or of another sort). */
 public final class NameFaultsTest {
     private static final Check CHECK = new Check();
@@ -13,6 +16,7 @@ public final class NameFaultsTest {
         partitionsAnew();
         namesThatMayBe();
         namesToldApart();
+        shortNamesToldApart();
         partitionNotThere();
         portNotThere();
         ofAnotherSort();
@@ -84,6 +88,32 @@ public final class NameFaultsTest {
             }
         }
         CHECK.fineInside("event ab; event ba; event a1; event b1;");
+    }
+
+    /** Every name of one or two letters beside every other: sixteen in a partition, eight and eight of two groups. */
+    private static void shortNamesToldApart() {
+        CHECK.sentence("3 a NAME anew that is there: no two names are taken for one");
+        List<String> names = new ArrayList<>();
+        for (char first = 'a'; first <= 'z'; first++) {
+            names.add("" + first);
+            for (char second : "abcdefghijklmnopqrstuvwxyz0123456789".toCharArray()) {
+                names.add("" + first + second);
+            }
+        }
+        names.removeAll(List.of(Check.WORDS));
+        for (int one = 0; one < names.size(); one += 8) {
+            for (int other = one + 8; other < names.size(); other += 8) {
+                CHECK.fineInside(eight(names, one, "event #;", "buffer # 1;") + eight(names, other, "board #;", "semaphore # 0:1;"));
+            }
+        }
+    }
+
+    private static String eight(List<String> names, int from, String firstFour, String lastFour) {
+        StringBuilder all = new StringBuilder();
+        for (int k = from; k < Math.min(names.size(), from + 8); k++) {
+            all.append((k < from + 4 ? firstFour : lastFour).replace("#", names.get(k)));
+        }
+        return all.toString();
     }
 
     private static void partitionNotThere() {
